@@ -725,7 +725,7 @@ public final class DividingHead {
 
     /** The trial becomes what is, and what was can be undone, if the answer is no refusal. */
     private int adopt(int answer) {
-        if (answer < 0) {
+        if (answer < 0 || pastTotal < 0) {
             return answer;
         }
         if (pastTotal >= past.length) {
@@ -1447,7 +1447,7 @@ public final class DividingHead {
             for (int i = 0; i < SLOTS; i++) {
                 slot &= SLOTS - 1;
                 int entry = slots[slot] - 1;
-                if (entry < 0 || up(entry) == upper && low(entry) == lower) {
+                if (entry < 0 || entry < MOST && ups[entry] == upper && lows[entry] == lower) {
                     return slot;
                 }
                 slot++;

@@ -327,6 +327,14 @@ public final class PromisesTest {
         Check.gears(y, "54,80");
         due("11: m above 400", y.differential(400), 405);
         Check.row("11: 8 of 27", y, 0, 0, 8, 1, 0, -1, -1, 1);
+        // 10 is the one number near 30 or 31 that has a SIMPLE: off by 20, and by 21
+        DividingHead far = new DividingHead();
+        Check.plates(far, "10");
+        Check.gears(far, "20,40,42");
+        far.sets(0, 1);
+        due("11: less 20", far.differential(30), 10);
+        Check.row("11: less 20", far, 0, 0, 1, 1, 0, -1, -1, -1);
+        due("11: less 21 is too far", far.differential(31), -2);
         // four gears, none of two: 4/5 = 2/5 * 2 = (20 * 80) / (50 * 40)
         DividingHead z = new DividingHead();
         Check.gears(z, "21,42,25,50");
@@ -412,6 +420,11 @@ public final class PromisesTest {
         Check.row("15: 5", x, 2, 0, 5, 1, 395, 1);
         due("15: exact", x.nearest(10, 6), 2);
         Check.row("15: 5/3", x, 2, 1, 5, 3, 0, 1);
+        Check.gears(x, "100,20,60");
+        due("15: the lesser of 5 and 3, though it comes later", x.nearest(4, 1), 2);
+        Check.row("15: 3", x, 2, 1, 3, 1, 1, 1);
+        Check.gears(x, "20,60,100");
+        due("15: exact", x.nearest(10, 6), 2);
         due("15: 0", x.nearest(0, 1), NONE);
         due("15: 401", x.nearest(1, 401), NONE);
         Check.row("15: the row stays", x, 2, 1, 5, 3, 0, 1);
@@ -456,6 +469,10 @@ public final class PromisesTest {
         Check.row("17: 2000/3", x, 1, 0, 2000, 3, 400, 3);
         due("17: 8000: 6000 is as near as 10000", x.lead(8000), 2);
         Check.row("17: 6000", x, 0, 1, 6000, 1, 2000, 1);
+        Check.gears(x, "20,100,60");
+        due("17: the lesser one comes later", x.lead(8000), 2);
+        Check.row("17: 6000", x, 0, 2, 6000, 1, 2000, 1);
+        Check.gears(x, "20,60,100");
         due("17: 20000", x.lead(20000), 2);
         Check.row("17: 10000", x, 0, 2, 10000, 1, 10000, 1);
         due("17: 1", x.lead(1), 2);
@@ -479,6 +496,12 @@ public final class PromisesTest {
         Check.row("18: 0", x, 0, 1, 1, 2);
         due("18: 3/2 by 1", x.near(3, 2, 1), 0);
         Check.row("18: 1 is less", x, 1, 1, 1, 2);
+        due("18: 3/4 by 2: 1/2 and 1 are as near", x.near(3, 4, 2), 1);
+        Check.row("18: 1/2 is less", x, 1, 2, 1, 4);
+        due("18: 5/6 by 3: 2/3 and 1 are as near", x.near(5, 6, 3), 2);
+        Check.row("18: 2/3 is less", x, 2, 3, 1, 6);
+        due("18: 11/10 by 5: as near to both of 1 and 6/5", x.near(11, 10, 5), 0);
+        Check.row("18: 1 is less than 6/5", x, 1, 1, 1, 10);
         due("18: itself, not smallest", x.near(50, 100, 1000), 1);
         Check.row("18: 1/2", x, 1, 2, 0, 1);
         due("18: many steps", x.near(100000, 1, 1), 99999);
@@ -534,6 +557,9 @@ public final class PromisesTest {
         Check.row("20: the lesser", x, 0, 0, 0, 64800, 1);
         due("20: just more", x.angle(64801), 0);
         Check.row("20: the greater", x, 0, 0, 1, 64799, 1);
+        Check.plates(x, "10,12");
+        due("20: 118800: 129600 and 108000 are as near", x.angle(118800), 0);
+        Check.row("20: the lesser, though its circle comes later", x, 1, 0, 1, 10800, 1);
         Check.plates(x, "11;10;70");
         // one hole of 11 is 117818 2/11; 10: 129600; 70: 18514 2/7, 6 of them 111085 5/7, 7 of them 129600
         due("20: 129600", x.angle(129600), 1);
@@ -641,6 +667,7 @@ public final class PromisesTest {
         due("24: and on", x.cranks(2, 0, 1), 0);
         Check.row("24: 1/3 + 4/3", x, 2, 3);
         lowerNumberAbove();
+        lowerNumberJustAllowed();
     }
 
     private static void lowerNumberAbove() {
@@ -659,7 +686,25 @@ public final class PromisesTest {
         due("24: NONE ahead of -4", x.cranks(0, 29, 0), NONE);
         due("24: the row stays", told(x, 1), lower);
         due("24: not done", x.count(7), done);
+        due("24: the position stays", x.undo(), 6);
+        due("24: the circle is that before", x.count(4), 10);
+        x.uses(9);
         due("24: whole turns can be", x.cranks(3, 0, 0), 0);
+    }
+
+    /** 8 + (31 * 67) / (97 * 98) is 78125 by 9506, times 50 holes: 5^9; 64 holes by 8: 2^9. */
+    private static void lowerNumberJustAllowed() {
+        DividingHead x = new DividingHead();
+        Check.plates(x, "50,64");
+        Check.gears(x, "31,97,67,98");
+        x.sets(0, 8);
+        x.geared(0, 1, 2, 3, -1);
+        due("24: 5^9", x.cranks(0, 1, 0), 0);
+        due("24: 5^9", told(x, 1), 1953125);
+        x.ungeared();
+        x.uses(1);
+        due("24: just 10^9", x.cranks(0, 1, 0), 0);
+        due("24: just 10^9", told(x, 1), 1000000000);
     }
 
     // 25
