@@ -22,6 +22,10 @@ final class Check {
         }
     }
 
+    static void same(String what, String got, String want) {
+        holds(what + "\n  is  " + got + "\n  due " + want, got.equals(want));
+    }
+
     /** The row, and that it is no longer. */
     static void row(String call, DividingHead x, long... want) {
         due(call + ": numbers of the row", x.count(8), want.length);
